@@ -576,7 +576,11 @@ public final class NotWhereYesterday {
         }
         int notGood = 0;
         for (int i = 0; i < n && now.today < MOST_DAYS; i++) {
-            draftByKind(kind);
+            if (kind == 3) {
+                fillDraft();
+            } else {
+                draftByKind(kind);
+            }
             if (!watch.isGood(now.today, true)) {
                 notGood++;
             }
@@ -586,10 +590,6 @@ public final class NotWhereYesterday {
     }
 
     private void draftByKind(int kind) {
-        if (kind == 3) {
-            fillDraft();
-            return;
-        }
         for (int p = 0; p < house.posts; p++) {
             int person = oneByKind(kind, p);
             now.place(p, house.hasPerson(person) ? person : NONE);
@@ -1060,8 +1060,11 @@ public final class NotWhereYesterday {
         }
 
         int postOf(int day, int person) {
+            if (day < 0 || day > MOST_DAYS) {
+                return NONE;
+            }
             for (int p = 0; p < MOST; p++) {
-                if (onePlaced(day, p) == person) {
+                if (days[day * MOST + p] == person) {
                     return p;
                 }
             }
@@ -1150,7 +1153,7 @@ public final class NotWhereYesterday {
 
     /** Who may be where and beside whom, by THE RULE and the DAYS ahead. */
     private static final class Watch {
-        private static final int AWAY = 1;
+        static final int AWAY = 1;
         private static final int WAS_THERE = 2;
         private static final int FROM_THERE = 3;
         private static final int NOT_ABLE = 4;
@@ -1207,7 +1210,7 @@ public final class NotWhereYesterday {
         boolean barredPair(int day, int post) {
             int one = now.onePlaced(day, post - 1);
             int other = now.onePlaced(day, post);
-            return one != NONE && other != NONE && !mayMeet(one, other, day);
+            return one != NONE && other != NONE && (metLately(one, day) >> other & 1) != 0;
         }
 
         int reason(int day, int post, boolean withCrafts) {

@@ -27,6 +27,10 @@ public final class AgainstPlainTest {
             draw(5);
             new AgainstPlainTest().run(run);
         }
+        for (int run = 0; run < runs / 10 && wrong < 5; run++) {
+            seed = run * 104729L + 3;
+            new AgainstPlainTest().runSparse(run);
+        }
         System.out.println(wrong == 0 ? "as plain: " + runs + " runs" : wrong + " wrong runs");
         if (wrong != 0) {
             System.exit(1);
@@ -54,6 +58,57 @@ public final class AgainstPlainTest {
                 return;
             }
         }
+    }
+
+    /** Up to 120 FILLINGS of which few follow each other, so that rounds are long and some ways end. */
+    private void runSparse(int run) {
+        int people = 4 + (odds(4) ? 0 : 1);
+        int posts = people - draw(2);
+        boolean fine = true;
+        for (int i = 0; i < people; i++) {
+            int crafts = odds(4) ? draw(64) : 63;
+            fine &= same("person " + crafts, x.person(crafts, 9), y.person(crafts, 9));
+        }
+        for (int i = 0; i < posts; i++) {
+            int craft = odds(3) ? draw(6) : -1;
+            fine &= same("post " + craft, x.post(craft, true, 9, i), y.post(craft, true, 9, i));
+        }
+        StringBuilder t = new StringBuilder(odds(3) ? "b1" : odds(3) ? "b2" : "b0");
+        t.append(odds(3) ? ";w0" : odds(2) ? ";w1" : ";w2");
+        for (int i = draw(10); i > 0; i--) {
+            t.append(";x").append(draw(posts)).append('-').append(draw(posts));
+        }
+        Checks.told(x, t.toString());
+        tellPlain(t.toString());
+        log.append(t).append("; ");
+        fine &= x.count(3) == y.count(3) && x.count(4) == y.count(4);
+        for (int i = 0; i < 2; i++) {
+            fine &= same("ever", x.ever(), y.ever()) && sameState();
+            fine &= same("round", x.round(), y.round()) && sameState();
+            fine &= same("lasts", x.lasts(), y.lasts()) && sameState();
+            if (odds(6)) {
+                fine &= same("lessons", x.lessons(), y.lessons()) && sameState();
+            }
+            int n = odds(4) && x.count(3) > 0 ? 3 : 2;
+            fine &= same("most " + n, x.most(n), y.most(n)) && sameState();
+            fine &= same("fill", x.fill(), y.fill()) && same("day", x.day(), y.day());
+        }
+        if (!fine) {
+            wrong++;
+            System.out.println("sparse run " + run + ": " + log);
+        }
+    }
+
+    private void tellPlain(String text) {
+        for (int i = 0; i < text.length(); i += 4) {
+            int v = 0;
+            for (int j = i; j < i + 4; j++) {
+                v = v << 8 | (j < text.length() ? text.charAt(j) : 0);
+            }
+            y.sign(v);
+        }
+        y.end(text.length());
+        y.rule();
     }
 
     /** Trying out all FILLINGS goes only where there are few of the one or of the other. */
