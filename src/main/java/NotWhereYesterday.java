@@ -530,11 +530,11 @@ public final class NotWhereYesterday {
     }
 
     public int most(int n) {
-        if (!rounds.isFew()) {
-            return TOO_MANY;
-        }
         if (n < 1 || n > 3) {
             return NONE;
+        }
+        if (!rounds.isFew()) {
+            return TOO_MANY;
         }
         rounds.build();
         int parts = rounds.mostParts(n);

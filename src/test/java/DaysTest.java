@@ -25,6 +25,8 @@ public final class DaysTest {
         NotWhereYesterday x = Checks.wall(2, 2);
         Checks.is("empty", x.put(0, 1), NONE);
         Checks.is("at another post", x.put(1, 1), -2);
+        Checks.is("no such post, of one who is at another", x.put(2, 1), -3);
+        Checks.is("no such post, of one who is at another", x.put(-1, 1), -3);
         Checks.is("nobody is there", x.who(0, 1), NONE);
         Checks.is("where it is", x.put(0, 1), 1);
         Checks.is("another one", x.put(0, 0), 1);

@@ -385,6 +385,11 @@ public final class EverTest {
             Checks.is("lasts", z.lasts(), -3);
             Checks.is("lessons", z.lessons(), -3);
             Checks.is("most", z.most(1), -3);
+            Checks.is("most", z.most(3), -3);
+            // another n goes ahead of too many
+            Checks.is("most, 0 days", z.most(0), NONE);
+            Checks.is("most, 4 days", z.most(4), NONE);
+            Checks.is("most, -1 days", z.most(-1), NONE);
             Checks.is("fresh", z.fresh(), -3);
         }
         Checks.rowIs("the ROW stays", x, 0, NONE);

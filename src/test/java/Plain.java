@@ -951,11 +951,11 @@ final class Plain {
     private List<int[]> chain;
 
     int most(int n) {
-        if (many()) {
-            return -3;
-        }
         if (n < 1 || n > 3) {
             return NONE;
+        }
+        if (many()) {
+            return -3;
         }
         chainBest = -1;
         chain = null;
