@@ -11,6 +11,8 @@ public final class EdgesOfBestTest {
         bestNoneIsLeast();
         bestTakesWorthAheadOfTheRow();
         bestBehindTheLastDay();
+        bestOverAnEmptyPost();
+        bestOfTenBeside();
         fillIsThat();
         fillOfNone();
         illOfNoneSuch();
@@ -129,6 +131,47 @@ public final class EdgesOfBestTest {
         Checks.is("the draft", x.who(60, 0), 0);
     }
 
+    private static void bestOverAnEmptyPost() {
+        Checks.part("18: an empty POST between two who may not be NEIGHBOURS");
+        NotWhereYesterday x = new NotWhereYesterday();
+        x.person(0, 9);
+        x.person(0, 9);
+        x.post(NONE, false, 1, 0);
+        x.post(3, true, 1, 0);
+        x.post(NONE, false, 1, 0);
+        Checks.told(x, "b1");
+        Checks.dayOf(x, 0, 1);
+        Checks.is("nobody can be at the one between", x.best(), 20);
+        Checks.rowIs("nobody can be at the one between", x, 0, NONE, 1);
+        Checks.is("of breaking, too", x.breaking(1), 20);
+        Checks.rowIs("of breaking, too", x, 20, 0, 0, NONE, 1);
+        x.post(NONE, true, 1, 0);
+        Checks.is("beside, the one must be filled", x.best(), 1020);
+        Checks.rowIs("beside, the one must be filled", x, 0, NONE, NONE, 1);
+    }
+
+    private static void bestOfTenBeside() {
+        Checks.part("18: the last of ten PEOPLE, who may not be beside the first");
+        NotWhereYesterday x = Checks.wall(10, 2);
+        Checks.told(x, "b1;a1,1-1;a2,1-1;a3,1-1;a4,1-1;a5,1-1;a6,1-1;a7,1-1");
+        Checks.dayOf(x, 9, 0);
+        Checks.is("8 and 9 are not away", x.best(), 20);
+        Checks.rowIs("8 is beside the first", x, 0, 8);
+        Checks.told(x, "b1;a1,1-1;a2,1-1;a3,1-1;a4,1-1;a5,1-1;a6,1-1;a7,1-1;a8,1-1");
+        Checks.is("0 and 9 alone", x.best(), 10);
+        Checks.rowIs("0 and 9 alone", x, NONE, 0);
+        Checks.is("9 beside all", x.free(9), 10);
+        Checks.is("nobody else", x.free(8), 0);
+        x.post(NONE, false, 1, 0);
+        Checks.is("one post between", x.best(), 20);
+        Checks.rowIs("one post between", x, 0, NONE, 9);
+        Checks.told(x, "b1;a0,1-1;a1,1-1;a2,1-1;a3,1-1;a4,1-1;a5,1-1;a6,1-1");
+        Checks.dayOf(x, NONE, 8, 9);
+        Checks.told(x, "b1;a0,2-2;a1,2-2;a2,2-2;a3,2-2;a4,2-2;a5,2-2;a6,2-2");
+        Checks.is("7, 8 and 9: 9 not beside 8", x.best(), 30);
+        Checks.rowIs("7, 8 and 9: 9 not beside 8", x, 8, 7, 9);
+    }
+
     private static void fillIsThat() {
         Checks.part("19: THE DRAFT becomes that: its WORTH");
         NotWhereYesterday x = walk(2, 3, "w1", 0, 1);
@@ -186,6 +229,16 @@ public final class EdgesOfBestTest {
         Checks.rowIs("the place of who is ill", x, 30, 3, 2, 1);
         Checks.is("who is not in it", x.ill(1), 0);
         Checks.rowIs("who is not in it", x, 30, 3, 2, 0);
+        Checks.is("best() is not by the draft", x.best(), 30);
+        Checks.rowIs("best() is not by the draft", x, 0, 1, 2);
+        Checks.draft(x);
+        x.ill(0);
+        x.post(NONE, false, 1, 0);
+        x.post(NONE, false, 1, 0);
+        x.ill(0);
+        Checks.is("best() is not by an empty draft", x.best(), 40);
+        Checks.rowIs("best() is not by an empty draft", x, NONE, 0, 1, 2, 3);
+        x = Checks.wall(4, 3);
         Checks.draft(x, 3, NONE, 0);
         Checks.is("an empty post is otherwise, too", x.ill(3), 2);
         Checks.rowIs("an empty post is otherwise, too", x, 30, 1, 2, 0);
@@ -225,6 +278,32 @@ public final class EdgesOfBestTest {
         NotWhereYesterday y = walk(10, 10, "w1", 0, 1, 2, 3, 4, 5, 6, 7, 8, 9);
         y.sheet(2, 10, 0, 1);
         Checks.is("all ten", y.ill(9), 10);
+        NotWhereYesterday v = Checks.wall(10, 0);
+        for (int p = 0; p < 10; p++) {
+            v.post(NONE, true, 1, 0);
+        }
+        v.sheet(2, 10, 9, -1);
+        Checks.is("of ten that must be filled", v.ill(0), 1);
+        Checks.rowIs("of ten that must be filled", v, 9090, 9, 8, 7, 6, 5, 4, 3, 2, 1, NONE);
+        NotWhereYesterday w = Checks.wall(10, 0);
+        for (int p = 0; p < 9; p++) {
+            w.post(NONE, true, 1, 0);
+        }
+        w.sheet(2, 9, 9, -1);
+        Checks.is("of nine that must be filled, by who is not there", w.ill(0), 0);
+        Checks.rowIs("of nine that must be filled, by who is not there", w, 9090, 9, 8, 7, 6, 5, 4, 3, 2, 1);
+        NotWhereYesterday u = new NotWhereYesterday();
+        u.post(0, true, 1, 0);
+        u.person(0, 9);
+        for (int a = 1; a < 10; a++) {
+            u.person(0, 9);
+            u.post(NONE, true, 1, 0);
+            u.put(a, a);
+        }
+        Checks.is("nobody can be at the first", u.ill(0), 0);
+        Checks.rowIs("nobody can be at the first", u, 9090, NONE, 1, 2, 3, 4, 5, 6, 7, 8, 9);
+        Checks.is("one for the last", u.ill(9), 1);
+        Checks.rowIs("one for the last", u, 9090, NONE, 1, 2, 3, 4, 5, 6, 7, 8, 0);
         NotWhereYesterday z = Checks.wall(1, 0);
         Checks.is("of no posts", z.ill(0), 0);
         Checks.rowIs("of no posts", z, 0);
@@ -271,6 +350,18 @@ public final class EdgesOfBestTest {
         NotWhereYesterday z = walk(3, 2, "b2", 0, 1);
         Checks.dayOf(z, 1, 2);
         Checks.told(z, "b2;a0,2-2");
+        // by CRAFTS 0 is at the post ahead alone, 1 at the one behind
+        NotWhereYesterday v = new NotWhereYesterday();
+        v.person(1, 9);
+        v.person(2, 9);
+        v.post(0, false, 1, 0);
+        v.post(1, false, 1, 0);
+        Checks.told(v, "b1");
+        Checks.dayOf(v, 0, 1);
+        Checks.is("one of them", v.best(), 10);
+        Checks.is("the one ahead", v.free(0), 10);
+        Checks.is("the one behind", v.free(1), 10);
+        Checks.is("all", v.free(NONE), 10);
         Checks.is("1 beside 2", z.free(1), 10);
         Checks.is("2 beside 1", z.free(2), 10);
         Checks.is("0 is away", z.free(0), 0);
@@ -321,6 +412,10 @@ public final class EdgesOfBestTest {
         x.post(NONE, true, 1, 0);
         Checks.is("nobody", x.none(), 1);
         Checks.rowIs("nobody", x, 512, 0);
+        NotWhereYesterday y = Checks.wall(0, 0);
+        y.post(NONE, true, 1, 0);
+        Checks.is("the first alone", y.none(), 1);
+        Checks.rowIs("the first alone", y, 1, 0);
         x.person(0, 1);
         Checks.is("one for ten, of which one must be", x.none(), 0);
     }
@@ -458,6 +553,10 @@ public final class EdgesOfBestTest {
         Checks.rowIs("for 0 the first, though it breaks", x, 10, 1, 0);
         Checks.is("for 1 the other", x.breaking(1), 10);
         Checks.rowIs("for 1 the other", x, 10, 0, 1);
+        x.day();
+        Checks.told(x, "w1;b1;a0,2-2;a1,2-2");
+        Checks.is("empty as yesterday", x.breaking(1), 0);
+        Checks.rowIs("empty as yesterday breaks nothing", x, 0, 0, NONE);
     }
 
     private static void breakingOfTen() {

@@ -73,6 +73,11 @@ public final class EdgesOfDaysTest {
         draftIs("all stay", x, 0, NONE, NONE, 1);
         x.day();
         Checks.is("of yesterday is no other post", x.put(1, 0), NONE);
+        x.go(0, 59);
+        x.put(0, 0);
+        Checks.is("behind the last DAY, too", x.put(1, 0), -2);
+        Checks.is("behind the last DAY, a sheet of one", x.sheet(2, 4, 2, 0), 1);
+        draftIs("behind the last DAY", x, 2, NONE, NONE, NONE);
     }
 
     private static void putOthers() {
@@ -446,6 +451,9 @@ public final class EdgesOfDaysTest {
         NotWhereYesterday y = new NotWhereYesterday();
         y.day();
         Checks.is("of no posts", y.judge(0), -2);
+        NotWhereYesterday z = Checks.wall(10, 10);
+        z.go(0, 2);
+        Checks.is("of ten posts", z.judge(0), -2);
     }
 
     private static void judgeNoSuchDay() {
@@ -497,8 +505,11 @@ public final class EdgesOfDaysTest {
         y.person(0, 9);
         y.post(0, true, 1, 0);
         y.day();
+        y.day();
+        Checks.told(y, "w1;b1;a0,0-1");
+        Checks.is("who is not there does not break it", y.broken(), 0);
         Checks.dayOf(y, 0);
-        Checks.is("who can't does not break it, nor who is not there", y.broken(), 0);
+        Checks.is("nor who can't", y.broken(), 0);
     }
 
     private static void brokenOftenOnAllDays() {

@@ -16,8 +16,10 @@ public final class EdgesOfEverTest {
         writtenEachOnce();
         writtenNotOfFreePosts();
         few5And5();
+        few120Fillings();
         foreverWhereAndBesideCountAs1();
         foreverNobodyIsAwayNobodyLearns();
+        everByPostsThatAreNotThere();
         everOfNoPosts();
         everOfFewerPeople();
         everGoOnForEver();
@@ -37,6 +39,8 @@ public final class EdgesOfEverTest {
         mostOfOneToThreeDays();
         mostPartsAboveLong();
         mostByTheRuleAsItIs();
+        mostThirdDayByTheFirst();
+        mostOfAllDaysTogether();
         mostWithBeingAway();
         mostNobodyLearns();
         mostOfEqualOnesTheLeastRow();
@@ -169,8 +173,10 @@ public final class EdgesOfEverTest {
             Checks.told(x, "w0;b0");
             Checks.is("of none", x.written(), 0);
             Checks.rowIs("of none", x, 0);
-            x.sheet(2, 10, 0, 1);
-            Checks.is("not of the draft", x.written(), 0);
+            Checks.told(x, "w1;b1");
+            x.sheet(2, 5, 0, 2);
+            Checks.is("not of the draft", x.written(), day == 0 ? 0 : 10);
+            Checks.rowIs("not of the draft", x, day == 0 ? 0 : 9);
             x.sheet(3, 0, 0, 0);
             x.go(0, 1);
         }
@@ -223,6 +229,50 @@ public final class EdgesOfEverTest {
         Checks.is("5 of 5, fresh", x.fresh(), 50);
     }
 
+    /** The first POST is done by the last of five alone: the last 24 of the 120 FILLINGS. */
+    private static NotWhereYesterday lastOfFive() {
+        NotWhereYesterday x = new NotWhereYesterday();
+        for (int a = 0; a < 5; a++) {
+            x.person(a == 4 ? 1 : 0, 1);
+        }
+        x.post(0, true, 1, 0);
+        for (int p = 1; p < 5; p++) {
+            x.post(NONE, true, 1, 0);
+        }
+        return x;
+    }
+
+    private static void few120Fillings() {
+        Checks.part("few: at most 5 PEOPLE, 5 POSTS: the last of their FILLINGS");
+        NotWhereYesterday x = lastOfFive();
+        Checks.told(x, "w1;f0");
+        Checks.is("ever", x.ever(), 24);
+        Checks.rowIs("ever", x, 24);
+        Checks.is("round", x.round(), 2);
+        Checks.rowIs("round", x, 4, 0, 1, 2, 3, 4, 1, 0, 3, 2);
+        Checks.is("lasts", x.lasts(), 20);
+        Checks.is("most", x.most(2), 100);
+        Checks.rowIs("most", x, 4, 0, 1, 2, 3, 4, 1, 0, 3, 2);
+        Checks.dayOf(x, 4, 3, 2, 1, 0);
+        Checks.is("lasts behind the last of them", x.lasts(), 20);
+        Checks.told(x, "w1");
+        Checks.is("4 can't stay", x.ever(), 0);
+        Checks.rowIs("4 can't stay", x, 24);
+        Checks.is("round", x.round(), -2);
+        Checks.is("lasts", x.lasts(), 0);
+        Checks.is("lessons", x.lessons(), 1);
+        Checks.rowIs("lessons", x, 0, 0);
+        x.put(0, 0);
+        x.day();
+        Checks.is("0 has learnt", x.ever(), 48);
+        Checks.rowIs("0 has learnt", x, 48);
+        Checks.is("0 and 4 by turns", x.round(), 2);
+        Checks.rowIs("0 and 4 by turns", x, 0, 1, 2, 3, 4, 4, 0, 1, 2, 3);
+        Checks.told(x, "f0");
+        Checks.is("ever", x.ever(), 48);
+        Checks.is("round", x.round(), 1);
+    }
+
     private static void foreverWhereAndBesideCountAs1() {
         Checks.part("for ever: WHERE and BESIDE count as 1, if they are more");
         for (int n = 1; n <= 9; n++) {
@@ -268,6 +318,22 @@ public final class EdgesOfEverTest {
         Checks.is("lasts", x.lasts(), 1);
     }
 
+    private static void everByPostsThatAreNotThere() {
+        Checks.part("THE RULE may name POSTS that are not there: they bar nothing");
+        NotWhereYesterday x = Checks.wall(2, 2);
+        Checks.told(x, "w1;x2-0;x2-1;x3-0;x4-1;x9-0;x0-2;f3");
+        Checks.is("ever", x.ever(), 2);
+        Checks.is("round", x.round(), 2);
+        Checks.is("most", x.most(2), 40);
+        Checks.dayOf(x, 0, 1);
+        Checks.is("lasts", x.lasts(), 20);
+        Checks.is("fresh", x.fresh(), 20);
+        x.post(NONE, true, 1, 0);
+        x.person(0, 1);
+        Checks.told(x, "x2-0;x2-1;x2-2");
+        Checks.is("then one is: nobody stays on", x.ever(), 0);
+    }
+
     private static void everOfNoPosts() {
         Checks.part("31: of no POSTS there is one FILLING");
         for (int people = 0; people <= 5; people++) {
@@ -306,7 +372,19 @@ public final class EdgesOfEverTest {
         Checks.rowIs("there is one", x, 1);
         Checks.told(x, "w1;f0");
         Checks.is("but if it is free", x.ever(), 1);
-        // from 0 at 0 to 1, from 1 at 0 to 2, from 2 at 0 to none of those who can
+        // by CRAFTS 0 2, 1 0, 2 1 and so on: from some there is a next one, but none behind that
+        NotWhereYesterday z = new NotWhereYesterday();
+        z.person(1, 9);
+        z.person(3, 9);
+        z.person(2, 9);
+        z.post(0, true, 1, 0);
+        z.post(1, true, 1, 0);
+        Checks.told(z, "w1;x0-0");
+        Checks.is("0 1, 1 2, 0 1 go on", z.ever(), 2);
+        Checks.rowIs("0 1, 0 2, 1 2", z, 3);
+        Checks.told(z, "w1;x0-1");
+        Checks.is("1 2 is behind 0 1 and ends there", z.ever(), 0);
+        Checks.is("two days", z.lasts(), 2);
         NotWhereYesterday y = Checks.wall(5, 5);
         Checks.told(y, "x0-1;x0-2;x0-3;x0-4;x0-0");
         Checks.is("of five of five nobody comes from post 0", y.ever(), 0);
@@ -394,6 +472,12 @@ public final class EdgesOfEverTest {
         y.person(0, 9);
         y.post(5, true, 1, 0);
         Checks.is("nobody can", y.round(), -2);
+        y.person(32, 9);
+        Checks.told(y, "w1");
+        Checks.is("one can, and not by way of who can't", y.round(), -2);
+        Checks.told(y, "w0");
+        Checks.is("one can", y.round(), 1);
+        Checks.rowIs("one can", y, 1, 1);
     }
 
     private static void lastsAtMost20() {
@@ -506,6 +590,15 @@ public final class EdgesOfEverTest {
         y.person(4, 9);
         y.post(4, true, 1, 0);
         y.post(2, true, 1, 0);
+        // of two who go to and fro the one has both, the other none: two, one right behind the other
+        NotWhereYesterday z = new NotWhereYesterday();
+        z.person(0, 9);
+        z.person(12, 9);
+        z.post(3, true, 1, 0);
+        z.post(2, true, 1, 0);
+        Checks.told(z, "w1");
+        Checks.is("both", z.lessons(), 2);
+        Checks.rowIs("both", z, 0, 2, 0, 3);
         // one has 2; 4 is learnt by 0 first, or by 1, or by 2, which would leave 2 to another
         Checks.is("one", y.lessons(), 1);
         Checks.rowIs("one", y, 0, 4);
@@ -593,6 +686,48 @@ public final class EdgesOfEverTest {
         Checks.told(y, "b2");
         Checks.is("by b2, three days", y.most(3), 60);
         Checks.rowIs("by b2, three days", y, 0, 2, 1, 2, 0, 1);
+    }
+
+    private static void mostThirdDayByTheFirst() {
+        Checks.part("35: each GOOD from TODAY on: the third DAY by the first of them");
+        String[] rules = {"w0", "w1", "w2", "w3", "w9", "w2;f0", "w2;f1", "w1;x0-0"};
+        int[][] due = {{0, 0, 0}, {0, 1, 0}, {0, 1, 2}, {0, 1, 2}, {0, 1, 2}, {0, 0, 0}, {0, 1, 2}, {0, 1, 0}};
+        NotWhereYesterday x = Checks.wall(3, 1);
+        for (int i = 0; i < rules.length; i++) {
+            Checks.told(x, rules[i]);
+            Checks.is(rules[i], x.most(3), 30);
+            Checks.rowIs(rules[i], x, due[i]);
+        }
+        NotWhereYesterday y = Checks.wall(3, 2);
+        String[] beside = {"b0", "b1", "b2", "b3", "b9"};
+        int[][] row = {{0, 1, 0, 1, 0, 1}, {0, 1, 0, 2, 0, 1}, {0, 1, 0, 2, 1, 2}, {0, 1, 0, 2, 1, 2}, {0, 1, 0, 2, 1, 2}};
+        for (int i = 0; i < beside.length; i++) {
+            Checks.told(y, beside[i]);
+            Checks.is(beside[i], y.most(3), 60);
+            Checks.rowIs(beside[i], y, row[i]);
+        }
+        NotWhereYesterday z = Checks.wall(2, 2);
+        Checks.told(z, "w2");
+        Checks.is("two days", z.most(2), 40);
+        Checks.is("of two nobody is left", z.most(3), -2);
+        Checks.told(z, "w2;f1");
+        Checks.is("at the one", z.most(3), -2);
+        Checks.told(z, "w2;f0;f1");
+        Checks.is("at neither", z.most(3), 60);
+    }
+
+    private static void mostOfAllDaysTogether() {
+        Checks.part("35: The most parts that n DAYS could bring");
+        NotWhereYesterday x = Checks.wall(3, 0);
+        x.post(NONE, true, 1, 7);
+        x.post(NONE, true, 1, 2);
+        // 0 1 would be first, but 2 alone can be there on all three, and 1 on two of them
+        Checks.told(x, "a0,1-1;a1,2-2");
+        Checks.is("2 at the one with the greater loss", x.most(3), 58);
+        Checks.rowIs("2 at the one with the greater loss", x, 2, 1, 2, 1, 2, 0);
+        Checks.told(x, "a0,1-1");
+        Checks.is("two days", x.most(2), 40);
+        Checks.rowIs("two days", x, 1, 2, 1, 2);
     }
 
     private static void mostWithBeingAway() {

@@ -16,6 +16,7 @@ public final class EdgesOfPlansTest {
         turnsIfThereIsOne();
         zigzagOfEachNumber();
         zigzagOfMorePosts();
+        kindsOfFewerPosts();
         choiceOfNothing();
         metOnAllDays();
         metOfNoneSuch();
@@ -206,6 +207,19 @@ public final class EdgesOfPlansTest {
         dayIs(y, 1, 1, 0, 2);
     }
 
+    private static void kindsOfFewerPosts() {
+        Checks.part("37: at POST p: nobody at one that is told later");
+        for (int kind = 0; kind <= 3; kind++) {
+            NotWhereYesterday x = Checks.wall(6, 2);
+            x.go(kind, 1);
+            x.post(NONE, false, 1, 0);
+            Checks.is("kind " + kind, x.who(0, 2), NONE);
+            Checks.is("kind " + kind, x.who(1, 2), NONE);
+            x.go(kind, 1);
+            Checks.is("on the next DAY, kind " + kind, x.who(1, 2) != NONE ? 1 : 0, 1);
+        }
+    }
+
     private static void choiceOfNothing() {
         Checks.part("37: by CHOICE: best()");
         NotWhereYesterday x = Checks.wall(2, 2);
@@ -248,6 +262,12 @@ public final class EdgesOfPlansTest {
         NotWhereYesterday x = Checks.wall(2, 2);
         x.fill();
         Checks.is("not in the draft", x.all(), -2);
+        x.sheet(3, 0, 0, 0);
+        x.day();
+        x.soon(2);
+        Checks.is("nor in a ZIGZAG that was asked for", x.all(), -2);
+        x = Checks.wall(2, 2);
+        x.fill();
         x.day();
         Checks.is("on DAY 0", x.all(), 1);
         x.go(0, 59);
@@ -457,6 +477,14 @@ public final class EdgesOfPlansTest {
         Checks.rowIs("one", y, 1);
         Checks.is("the other", y.chairs(0), 0);
         Checks.rowIs("the other", y, 1);
+        NotWhereYesterday z = Checks.wall(3, 1);
+        z.day();
+        Checks.is("nobody was there", z.chairs(0), 0);
+        Checks.rowIs("nobody was there", z, 0);
+        NotWhereYesterday v = Checks.wall(3, 0);
+        v.day();
+        Checks.is("of no posts", v.chairs(2), 0);
+        Checks.rowIs("of no posts all are all", v, 3);
     }
 
     private static void chairsOfNoneSuch() {
@@ -499,6 +527,8 @@ public final class EdgesOfPlansTest {
         y.put(9, 0);
         y.day();
         Checks.is("the last comes again", y.unlike(), 2);
+        y.day();
+        Checks.is("an empty one is not the last", y.unlike(), 3);
     }
 
     private static void unlikeOfSixtyDays() {

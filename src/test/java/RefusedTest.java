@@ -355,7 +355,7 @@ public final class RefusedTest {
     /** A wrong text is emptied; else all is as if it had been taken back sign by sign. */
     private static void wrongTexts() {
         Checks.part("-1 - p of a text");
-        String[] texts = {"w", "w9;b9;z", "f0;f1;f", "x0-0;x1-1;x2-2;", "a0,3-9;a1,3-9;a2,3-", "a0,9-8", "b9;w9;a2,50-49"};
+        String[] texts = {"?", ";", "w", "w9;b9;z", "f0;f1;f", "x0-0;x1-1;x2-2;", "a0,3-9;a1,3-9;a2,3-", "a0,9-8", "b9;w9;a2,50-49"};
         for (String text : texts) {
             NotWhereYesterday x = wall();
             x.end(0);
