@@ -519,9 +519,9 @@ public final class EdgesOfDaysTest {
         Checks.told(x, "a0,0-99;a1,0-99;a2,0-99;a3,0-99;a4,0-99;a5,0-99;a6,0-99");
         Checks.is("seven away", x.broken(), 420);
         Checks.told(x, "b9");
-        Checks.is("zigzag: half a round is beside others", x.broken() == x.row(3) ? 1 : 0, 1);
-        // each five days all pairs, so that each pair of a day was such within nine days from day 5 on
-        Checks.is("neighbours", x.row(3), 55 * 9);
+        // all pairs meet in each five days, so that from DAY 5 on each pair of a DAY met within nine days
+        Checks.is("neighbours alone", x.broken(), 55 * 9);
+        Checks.rowIs("neighbours alone", x, 0, 0, 0, 55 * 9);
         Checks.told(x, "w9");
         Checks.is("each tenth day", x.broken(), 0);
         Checks.rowIs("each tenth day", x, 0, 0, 0, 0);

@@ -216,7 +216,7 @@ public final class EdgesOfPlansTest {
             Checks.is("kind " + kind, x.who(0, 2), NONE);
             Checks.is("kind " + kind, x.who(1, 2), NONE);
             x.go(kind, 1);
-            Checks.is("on the next DAY, kind " + kind, x.who(1, 2) != NONE ? 1 : 0, 1);
+            Checks.yes("on the next DAY, kind " + kind, x.who(1, 2) != NONE);
         }
     }
 

@@ -24,6 +24,7 @@ public final class EdgesOfTermsTest {
         whereOfEachDigit();
         besideOfEachDigit();
         lastLineCounts();
+        sameLineTwice();
         freeOfEachPostThereOrNot();
         freeIsOfWhereAlone();
         notToGoFromEachPostToEach();
@@ -382,6 +383,22 @@ public final class EdgesOfTermsTest {
         Checks.is("two days", x.may(0, 0), 1);
         x.day();
         Checks.is("three days", x.may(0, 0), 0);
+    }
+
+    private static void sameLineTwice() {
+        Checks.part("THE RULE: LINES: the same one twice is as once");
+        NotWhereYesterday x = Checks.wall(2, 2);
+        Checks.is("lines", Checks.told(x, "w1;w1;f0;f0;x1-0;x1-0;a1,1-2;a1,1-3;a1,2-2"), 9);
+        Checks.dayOf(x, 0, 1);
+        Checks.is("free", x.may(0, 0), 1);
+        Checks.is("not free", x.may(0, 1), 1);
+        Checks.is("away", x.may(1, 1), 0);
+        x.day();
+        Checks.dayOf(x, NONE, 0);
+        Checks.is("not to go", x.may(0, 0), 0);
+        Checks.is("away to the last of them", x.may(1, 0), 0);
+        x.day();
+        Checks.is("and no more", x.may(1, 0), 1);
     }
 
     private static void freeOfEachPostThereOrNot() {
