@@ -17,6 +17,8 @@ public final class AgainstPlainTest {
     private NotWhereYesterday x = new NotWhereYesterday();
     private Plain y = new Plain();
     private final StringBuilder log = new StringBuilder();
+    /** Calls on the class: behind the 512th its answers are free. */
+    private int asked;
     private int mostPeople;
     private int mostPosts;
 
@@ -50,7 +52,7 @@ public final class AgainstPlainTest {
             same("post " + craft, x.post(craft, i % 2 == 0, i % 9 + 1, 3), y.post(craft, i % 2 == 0, i % 9 + 1, 3));
         }
         int calls = 20 + draw(100);
-        for (int i = 0; i < calls; i++) {
+        for (int i = 0; i < calls && asked < 440; i++) {
             int kind = draw(60);
             if (!call(kind) || !sameState()) {
                 wrong++;
@@ -131,6 +133,7 @@ public final class AgainstPlainTest {
     }
 
     private boolean same(String call, long got, long want) {
+        asked++;
         log.append(call).append(" -> ").append(got);
         if (got != want) {
             log.append(" due ").append(want);
@@ -140,14 +143,19 @@ public final class AgainstPlainTest {
     }
 
     private boolean sameState() {
+        boolean all = odds(4);
         for (int i = -1; i <= 8; i++) {
-            if (x.count(i) != y.count(i)) {
-                return same("count " + i, x.count(i), y.count(i));
+            if (all || i == 6) {
+                asked++;
+                if (x.count(i) != y.count(i)) {
+                    return same("count " + i, x.count(i), y.count(i));
+                }
             }
         }
-        for (int i = -1; i <= y.count(6); i++) {
+        for (int i = all ? -1 : 0; i < y.count(6) + (all ? 1 : 0); i++) {
             long a = rowOf(i, true);
             long b = rowOf(i, false);
+            asked++;
             if (a != b) {
                 return same("row " + i, a, b);
             }
@@ -164,11 +172,11 @@ public final class AgainstPlainTest {
     }
 
     private int onePerson() {
-        return draw(x.count(0) + 1) - (odds(8) ? 1 : 0);
+        return draw(y.count(0) + 1) - (odds(8) ? 1 : 0);
     }
 
     private int onePost() {
-        return draw(x.count(1) + 1) - (odds(8) ? 1 : 0);
+        return draw(y.count(1) + 1) - (odds(8) ? 1 : 0);
     }
 
     private boolean call(int kind) {
@@ -178,14 +186,14 @@ public final class AgainstPlainTest {
         int n = draw(11) - 1;
         switch (kind) {
             case 0, 1:
-                if (x.count(0) >= mostPeople) {
+                if (y.count(0) >= mostPeople) {
                     return true;
                 }
                 int crafts = odds(20) ? draw(3) - 1 + 63 * draw(2) : draw(64);
                 int goes = odds(20) ? draw(12) - 1 : 1 + draw(3);
                 return same("person " + crafts + " " + goes, x.person(crafts, goes), y.person(crafts, goes));
             case 2, 3, 4:
-                if (x.count(1) >= mostPosts) {
+                if (y.count(1) >= mostPosts) {
                     return true;
                 }
                 int craft = odds(20) ? draw(9) - 2 : odds(2) ? -1 : draw(6);
@@ -211,10 +219,10 @@ public final class AgainstPlainTest {
             case 22, 23, 24, 25:
                 return same("day", x.day(), y.day());
             case 26:
-                int d = draw(x.count(2) + 2) - (odds(9) ? 1 : 0);
+                int d = draw(y.count(2) + 2) - (odds(9) ? 1 : 0);
                 return same("who " + d + " " + p, x.who(d, p), y.who(d, p));
             case 27:
-                int from = draw(x.count(2) + 1) - (odds(9) ? 1 : 0);
+                int from = draw(y.count(2) + 1) - (odds(9) ? 1 : 0);
                 return same("judge " + from, x.judge(from), y.judge(from));
             case 28:
                 return same("broken", x.broken(), y.broken());
@@ -293,7 +301,7 @@ public final class AgainstPlainTest {
 
     private boolean anyMost() {
         int n = odds(9) ? draw(6) - 1 : 1 + draw(3);
-        if (n == 3 && x.count(0) > 4) {
+        if (n == 3 && y.count(0) > 4) {
             n = 2;
         }
         return same("most " + n, x.most(n), y.most(n));
@@ -332,7 +340,7 @@ public final class AgainstPlainTest {
             x.end(0);
             y.end(0);
         }
-        int left = 80 - x.count(7);
+        int left = 80 - y.count(7);
         int length = Math.min(left, t.length());
         boolean fine = true;
         for (int i = 0; i < t.length(); i += 4) {
@@ -342,7 +350,7 @@ public final class AgainstPlainTest {
             }
             fine &= same("sign", x.sign(v), y.sign(v));
         }
-        int end = x.count(7) - (4 - t.length() % 4) % 4;
+        int end = y.count(7) - (4 - t.length() % 4) % 4;
         if (odds(60)) {
             end += draw(9) - 4;
         }
@@ -364,7 +372,7 @@ public final class AgainstPlainTest {
             case 6, 7:
                 return "x" + draw(5) + "-" + draw(5);
             default:
-                int from = Math.max(0, x.count(2) + draw(9) - 5);
+                int from = Math.max(0, y.count(2) + draw(9) - 5);
                 int to = from + (odds(9) ? draw(5) - 4 : draw(30));
                 to = Math.max(0, Math.min(99, to));
                 return "a" + draw(6) + "," + (odds(5) && from < 10 ? "0" : "") + Math.min(99, from) + "-"

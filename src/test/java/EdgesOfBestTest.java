@@ -20,6 +20,7 @@ public final class EdgesOfBestTest {
         illFewestPostsOtherwise();
         illThenTheLeastRow();
         illOfNoneAndOfAllPosts();
+        illOfTenBeside();
         freeOfNoneSuch();
         freeOfAll();
         freeNotOfBeingAway();
@@ -307,6 +308,20 @@ public final class EdgesOfBestTest {
         NotWhereYesterday z = Checks.wall(1, 0);
         Checks.is("of no posts", z.ill(0), 0);
         Checks.rowIs("of no posts", z, 0);
+    }
+
+    private static void illOfTenBeside() {
+        Checks.part("20: of ten that MUST be filled, of as few POSTS otherwise the least row");
+        NotWhereYesterday x = Checks.wall(10, 0);
+        for (int p = 0; p < 10; p++) {
+            x.post(NONE, true, 1, 0);
+        }
+        Checks.told(x, "b1");
+        Checks.dayOf(x, 8, 9);
+        Checks.draft(x, NONE, NONE, 2, 3, 4, 5, 6, 7, 8, 9);
+        // 8 and 9 may not stay beside each other: one of them goes to 0 or 1, and 1 to its place
+        Checks.is("8 to post 1", x.ill(0), 2);
+        Checks.rowIs("8 to post 1", x, 9090, NONE, 8, 2, 3, 4, 5, 6, 7, 1, 9);
     }
 
     private static void freeOfNoneSuch() {

@@ -548,9 +548,11 @@ public final class EdgesOfDaysTest {
         NotWhereYesterday x = Checks.wall(2, 0);
         x.post(NONE, false, 9, 9);
         for (int day = 0; day < 60; day++) {
-            Checks.dayOf(x, day % 2);
+            x.put(0, day % 2);
+            x.day();
             Checks.is("not done", x.works(0), 0);
-            Checks.rowIs("ten and ones", x, 10 + day, day % 2);
+            Checks.is("ten and ones", x.row(0), 10 + day);
+            Checks.is("who did it", x.row(1), day % 2);
         }
         NotWhereYesterday y = Checks.wall(1, 1);
         y.go(0, 60);

@@ -728,6 +728,12 @@ public final class EdgesOfEverTest {
         Checks.told(x, "a0,1-1");
         Checks.is("two days", x.most(2), 40);
         Checks.rowIs("two days", x, 1, 2, 1, 2);
+        NotWhereYesterday y = Checks.wall(3, 0);
+        y.post(NONE, true, 9, 5);
+        Checks.dayOf(y, 2);
+        Checks.told(y, "a0,1-1;a1,2-3;a2,2-3");
+        Checks.is("2 goes on, then 0 alone", y.most(3), 25);
+        Checks.rowIs("2 goes on, then 0 alone", y, 2, 0, 0);
     }
 
     private static void mostWithBeingAway() {
