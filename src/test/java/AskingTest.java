@@ -37,6 +37,7 @@ public final class AskingTest {
         Checks.dayOf(x, 1, 2, 0);
         Checks.dayOf(x, 0, 2, 1);
         x.put(2, 0);
+        Checks.tell(x, "b3;w2");
         return x;
     }
 

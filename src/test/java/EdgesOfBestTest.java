@@ -539,6 +539,13 @@ public final class EdgesOfBestTest {
         Checks.is("for 9", x.breaking(9), 11);
         Checks.is("for 11", x.breaking(11), 10);
         Checks.rowIs("for 11", x, 10, 0, NONE, 0);
+        NotWhereYesterday y = walk(1, 1, "w1;x0-0", 0);
+        Checks.is("by WHERE and by x once", y.breaking(3), 7);
+        Checks.rowIs("by WHERE and by x once", y, 10, 1, 0);
+        NotWhereYesterday z = walk(2, 2, "b9", 0, 1);
+        Checks.dayOf(z, 1, 0);
+        Checks.is("two who met twice once", z.breaking(3), 17);
+        Checks.rowIs("two who met twice once", z, 20, 1, 0, 1);
     }
 
     private static void breakingOfThoseWhoCan() {

@@ -294,6 +294,20 @@ public final class EdgesOfEverTest {
             Checks.dayOf(y, 1, 2);
             Checks.is("lasts, b" + n, y.lasts(), 20);
         }
+        for (int n = 1; n <= 9; n++) {
+            NotWhereYesterday z = Checks.wall(2, 2);
+            Checks.told(z, "b" + n);
+            Checks.dayOf(z, 0, 1);
+            Checks.is("they were neighbours yesterday, b" + n, z.lasts(), 0);
+            z.day();
+            Checks.is("they were two days ago, b" + n, z.lasts(), 1);
+            NotWhereYesterday v = Checks.wall(1, 1);
+            Checks.told(v, "w" + n);
+            Checks.dayOf(v, 0);
+            Checks.is("it was there yesterday, w" + n, v.lasts(), 0);
+            v.day();
+            Checks.is("it was there two days ago, w" + n, v.lasts(), 1);
+        }
         NotWhereYesterday x = Checks.wall(1, 1);
         Checks.told(x, "w0;b0");
         Checks.is("0 is not 1", x.ever(), 1);

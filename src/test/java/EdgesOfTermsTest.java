@@ -43,6 +43,7 @@ public final class EdgesOfTermsTest {
         goesOfEachCraftByItself();
         craftFromTheNextDayOn();
         rowAtFirstEmpty();
+        callsThatTellNoRowLeaveIt();
         rowsComparedFromTheFirstNumberOn();
         Checks.end();
     }
@@ -661,6 +662,43 @@ public final class EdgesOfTermsTest {
         Checks.rowIs("told last", x, 0, 1);
         x.works(0);
         Checks.rowIs("told then", x, 0, 0);
+    }
+
+    private static void callsThatTellNoRowLeaveIt() {
+        Checks.part("ROW: numbers told last by a call that says so: those that change DAYS, THE DRAFT, THE TEXT do not");
+        NotWhereYesterday x = Checks.wall(3, 3);
+        Checks.told(x, "w1;b1");
+        Checks.dayOf(x, 0, 1, 2);
+        Checks.dayOf(x, 0, 1, 2);
+        Checks.is("told", x.broken(), 5);
+        Checks.tell(x, "b2;w2");
+        int before = x.count(7);
+        x.put(0, 1);
+        Checks.rowIs("put", x, 0, 3, 0, 2);
+        x.sheet(2, 3, 0, 1);
+        Checks.rowIs("sheet", x, 0, 3, 0, 2);
+        x.keep(0);
+        Checks.rowIs("keep", x, 0, 3, 0, 2);
+        x.day();
+        Checks.rowIs("day", x, 0, 3, 0, 2);
+        x.fill();
+        Checks.rowIs("fill", x, 0, 3, 0, 2);
+        for (int kind = 0; kind <= 3; kind++) {
+            x.go(kind, 1);
+            Checks.rowIs("go", x, 0, 3, 0, 2);
+        }
+        x.again(0);
+        Checks.rowIs("again", x, 0, 3, 0, 2);
+        x.person(0, 1);
+        Checks.rowIs("person", x, 0, 3, 0, 2);
+        x.post(NONE, true, 1, 0);
+        Checks.rowIs("post", x, 0, 3, 0, 2);
+        Checks.is("THE TEXT stays by all of them", x.count(7), before);
+        x.sign(0);
+        x.end(before);
+        Checks.rowIs("sign, end", x, 0, 3, 0, 2);
+        Checks.is("rule", x.rule(), 2);
+        Checks.rowIs("rule", x, 0, 3, 0, 2);
     }
 
     private static void rowsComparedFromTheFirstNumberOn() {
